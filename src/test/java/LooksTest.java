@@ -5,6 +5,7 @@ public final class LooksTest {
         tree();
         spreading();
         spreadingInTurn();
+        spreadingOfOne();
         heights();
         base();
         moved();
@@ -78,6 +79,21 @@ public final class LooksTest {
         Due.same("leg 0", y.leg(0, 5), 100001);
         Due.same("leg 1", y.leg(1, 5), 100001);
         Due.same("leg 2", y.leg(2, 5), 100000);
+    }
+
+    private static void spreadingOfOne() {
+        LevelLoops x = Make.legs(Make.unknownMarks(2), Make.leg(0, 1, 0, 1), Make.leg(0, 1, 1, 2));
+        Due.row("a loop that misses by 1", i -> x.loop(0, i), 1, 3, 3, 1, 1, 5, 0, 1);
+        Due.same("leg 0", x.leg(0, 5), 100000);
+        Due.same("leg 1", x.leg(1, 5), 99999);
+        x.measure(1, -1);
+        Due.same("below", x.loop(0, 4), 2);
+        Due.same("leg 1", x.leg(1, 5), 100001);
+        // leg 0 has been in loop 0, so that leg 2 alone is free in loop 1
+        x.addLeg(1, 0, 5, 1);
+        x.measure(0, -4);
+        Due.row("loop 1", i -> x.loop(1, i), 2, 5, 2, 1, 1, 4, 0, 2);
+        Due.same("leg 2", x.leg(2, 5), 99998);
     }
 
     /** A leg that has been in a loop is not free any more, also if that loop did not miss. */

@@ -66,8 +66,10 @@ public final class MarksTest {
         Due.same("known then", x.mark(1, 0), 1050);
         Due.same("accept of one that moved", x.accept(2), 1101);
         Due.same("known then", x.mark(2, 0), 1101);
+        Due.row("it did not move then", i -> x.mark(2, i), 1101, 1101, 0, 0, 1, 0, 2);
         Due.same("undo accept", x.undo(), 5);
-        Due.same("known before", x.mark(2, 0), 1120);
+        Due.row("undone", i -> x.mark(2, i), 1120, 1101, 0, 1, 1, 0, 0);
+        Due.same("the other one is still accepted", x.mark(1, 0), 1050);
         LevelLoops y = Make.legs(Make.marks(99990, -1, -1, -1), Make.leg(0, 1, 9, 1), Make.leg(0, 2, 10, 1),
                 Make.leg(1, 3, -9999, 1));
         Due.same("accept 99999", y.accept(1), 99999);

@@ -5,6 +5,7 @@ public final class TextsTest {
         clearBuffer();
         firstError();
         book();
+        bookOfSixty();
         bookInPart();
         bookRefused();
         undo();
@@ -76,6 +77,22 @@ public final class TextsTest {
         Due.same("undo of a book", x.undo(), 0);
         Due.row("counts", x::count, 0, 0);
         Due.same("the buffer is no part of undo", x.clearBuffer(), 2);
+    }
+
+    private static void bookOfSixty() {
+        String text = "m99999;m99998;m99997;m99996;m99995;m99994;m99993;0-1:-9999/9";
+        LevelLoops x = new LevelLoops();
+        Make.type(x, text);
+        Due.same("a full buffer", text.length(), 60);
+        Due.same("firstError of it", x.firstError(), 60);
+        Due.same("book of it", x.book(), 8);
+        Due.row("counts", x::count, 7, 1);
+        Due.row("its leg", i -> x.leg(0, i), 0, 1, 9, 90001);
+        Make.type(x, text);
+        x.clearBuffer();
+        Make.type(x, "m1");
+        Due.same("nothing of the old text is left", x.book(), 1);
+        Due.row("counts", x::count, 8, 1);
     }
 
     private static void bookInPart() {
