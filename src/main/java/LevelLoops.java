@@ -741,7 +741,8 @@ public final class LevelLoops {
                 }
             }
             // Each round reaches a mark at least, as long as one is left.
-            for (int round = 1; round < survey.marks; round++) {
+            int all = (1 << survey.marks) - 1;
+            for (int round = 1; round < survey.marks && reached != all; round++) {
                 for (int leg = 0; leg < survey.legs; leg++) {
                     if (isIn(legs, leg)) {
                         reached |= reachBy(leg, reached);
