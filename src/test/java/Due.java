@@ -5,6 +5,8 @@ final class Due {
     }
 
     private static int wrong = 0;
+    /** What is told ahead of each wrong answer. */
+    private static String place = "";
 
     private Due() {
     }
@@ -53,10 +55,14 @@ final class Due {
         }
     }
 
+    static void at(String text) {
+        place = text;
+    }
+
     static void fail(String text) {
         wrong++;
         if (wrong <= 50) {
-            System.out.println(text);
+            System.out.println(place + text);
         }
     }
 

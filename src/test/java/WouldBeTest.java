@@ -1,3 +1,5 @@
+import java.util.List;
+
 /** Promises 23 to 26: without, fitting, goodShare, digest. */
 public final class WouldBeTest {
     public static void main(String[] args) {
@@ -57,79 +59,44 @@ public final class WouldBeTest {
         Due.sameDouble("none", x.goodShare(), 0.0);
     }
 
-    private static long hash(long... values) {
-        long hash = 2741;
-        for (long v : values) {
-            hash = 31 * hash + v;
-        }
-        return hash;
+    private static long hash(Long... values) {
+        return ByList.hash(List.of(values));
     }
 
     private static void digestOfNothing() {
         LevelLoops x = new LevelLoops();
         long one = Double.doubleToLongBits(1.0);
         Due.same("digest of a new object", x.digest(),
-                hash(0, 0, 0, 0, 0, 0, 0, 0, 0, 0, 0, 10, 2, 5, -1, -1, one, 0));
+                hash(0L, 0L, 0L, 0L, 0L, 0L, 0L, 0L, 0L, 0L, 0L, 10L, 2L, 5L, -1L, -1L, one, 0L));
         Make.type(x, "m7");
         Due.same("digest with a text", x.digest(),
-                hash(0, 0, 0, 0, 0, 0, 0, 0, 0, 0, 0, 10, 2, 5, -1, -1, one, 2, 'm', '7'));
+                hash(0L, 0L, 0L, 0L, 0L, 0L, 0L, 0L, 0L, 0L, 0L, 10L, 2L, 5L, -1L, -1L, one, 2L, 109L, 55L));
     }
 
     private static void digestByTheList() {
         LevelLoops x = four();
         x.append('!');
-        Due.same("digest", x.digest(), byTheList(x, "!"));
+        Due.same("digest", x.digest(), ByList.digest(WouldBeTest::four, "!"));
     }
 
-    private static long byTheList(LevelLoops x, String text) {
-        long[] hash = {2741};
-        java.util.function.LongConsumer next = v -> hash[0] = 31 * hash[0] + v;
-        for (int i = 0; i <= 10; i++) {
-            next.accept(x.count(i));
+    private static LevelLoops loops(int loops, int bad) {
+        LevelLoops x = Make.unknownMarks(2);
+        for (int leg = 0; leg <= loops; leg++) {
+            x.addLeg(0, 1, leg > 0 && leg <= bad ? 900 : 0, 1);
         }
-        for (int i = 0; i <= 2; i++) {
-            next.accept(x.setting(i));
-        }
-        for (int mark = 0; mark < x.count(0); mark++) {
-            for (int i = 0; i <= 6; i++) {
-                next.accept(x.mark(mark, i));
-            }
-            for (int i = 0; i <= 3; i++) {
-                next.accept(x.way(0, mark, i));
-            }
-        }
-        for (int leg = 0; leg < x.count(1); leg++) {
-            for (int i = 0; i <= 9; i++) {
-                next.accept(x.leg(leg, i));
-            }
-            for (int i = 0; i <= 3; i++) {
-                next.accept(x.without(leg, i));
-            }
-            next.accept(x.fitting(leg));
-        }
-        for (int loop = 0; loop < x.count(2); loop++) {
-            for (int i = 0; i <= 7; i++) {
-                next.accept(x.loop(loop, i));
-            }
-        }
-        next.accept(x.worst());
-        next.accept(x.suspect());
-        next.accept(Double.doubleToLongBits(x.goodShare()));
-        next.accept(text.length());
-        text.chars().forEach(next::accept);
-        return hash[0];
+        return x;
     }
 
     /** All shares that there can be, since their bits are reckoned. */
     private static void digestOfShares() {
-        for (int loops = 1; loops <= 19; loops++) {
-            for (int bad = 0; bad <= loops; bad++) {
-                LevelLoops x = Make.unknownMarks(2);
-                for (int leg = 0; leg <= loops; leg++) {
-                    x.addLeg(0, 1, leg > 0 && leg <= bad ? 900 : 0, 1);
-                }
-                Due.sameDouble("share", x.goodShare(), (loops - bad) / (double) loops);
-                Due.same("digest, " + bad + " of " + loops + " are bad", x.digest(), byTheList(x, ""));
+        for (int number = 1; number <= 19; number++) {
+            for (int bad = 0; bad <= number; bad++) {
+                int all = number;
+                int wrong = bad;
+                LevelLoops x = loops(all, wrong);
+                Due.sameDouble("share", x.goodShare(), (all - wrong) / (double) all);
+                Due.same("digest, " + wrong + " of " + all + " are bad", x.digest(),
+                        ByList.digest(() -> loops(all, wrong), ""));
             }
         }
     }
