@@ -11,7 +11,6 @@ import java.util.Set;
 import java.util.TreeSet;
 import java.util.regex.Matcher;
 import java.util.regex.Pattern;
-import java.util.stream.Collectors;
 import java.util.stream.Stream;
 
 /** What README.md says holds when it is followed from a clean checkout. Run from the project's root. */
@@ -103,20 +102,20 @@ public final class ReadmeTest {
 
     private static String run(String commands, Path project) throws Exception {
         Process process = new ProcessBuilder("sh", "-eu", "-c", commands).directory(project.toFile())
-                .redirectErrorStream(true).start();
+                .redirectError(ProcessBuilder.Redirect.INHERIT).start();
         process.getOutputStream().close();
         String printed;
         try (InputStream in = process.getInputStream()) {
             printed = new String(in.readAllBytes());
         }
-        Due.same("the end of " + commands + printed, process.waitFor(), 0);
+        Due.same("the end of " + commands + "with " + printed, process.waitFor(), 0);
         return printed;
     }
 
     private static void remove(Path place) throws IOException {
         List<Path> files;
         try (Stream<Path> all = Files.walk(place)) {
-            files = all.sorted(Comparator.reverseOrder()).collect(Collectors.toList());
+            files = all.sorted(Comparator.reverseOrder()).toList();
         }
         for (Path file : files) {
             Files.delete(file);
